@@ -4,10 +4,26 @@ final class Check {
         Object answer();
     }
 
+    private static String sentence = "";
     private static int passed = 0;
     private static int failed = 0;
 
     private Check() {
+    }
+
+    /** What the checks from here on are for. */
+    static void says(String text) {
+        sentence = text;
+    }
+
+    /** The sentence of the document's terms that the checks from here on are for. */
+    static void says(String section, String beginning) {
+        sentence = Doc.tested(section, beginning);
+    }
+
+    /** The sentence of a promise that the checks from here on are for. */
+    static void says(int promise, String beginning) {
+        sentence = Doc.tested("Promise " + promise, beginning);
     }
 
     static void due(String what, Object got, Object want) {
@@ -15,13 +31,12 @@ final class Check {
             passed++;
         } else {
             failed++;
-            System.out.println(what + " answered " + got + ", due is " + want);
+            System.out.println((sentence.isEmpty() ? "" : "[" + sentence + "] ") + what + " answered " + got + ", due is " + want);
         }
     }
 
-    /** The call must throw exactly this class and leave the object's answers as they were. */
-    static void fails(PlateauBench x, String what, Class<? extends RuntimeException> due, Call call) {
-        String before = State.of(x);
+    /** The call must throw exactly this class, not one below it. */
+    static void fails(String what, Class<? extends RuntimeException> due, Call call) {
         Object got;
         try {
             got = call.answer();
@@ -29,7 +44,6 @@ final class Check {
             got = e.getClass();
         }
         due(what, got, due);
-        due(what + ", the state behind it", State.of(x), before);
     }
 
     static void end() {

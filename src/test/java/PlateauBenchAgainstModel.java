@@ -35,7 +35,8 @@ public final class PlateauBenchAgainstModel {
         Model model = new Model();
         // Some runs change little, so that least nets and films of equal cost come up.
         boolean isPlain = seed % 3 == 0;
-        for (int i = 0; i < 512; i++) {
+        // The 512th call asks for the balance.
+        for (int i = 0; i < 511; i++) {
             Method method = drawn(random, methods, THEMES[seed % THEMES.length]);
             String name = method.getName();
             boolean isSkipped = isPlain && (name.equals("lay") || name.equals("cost")) && random.nextInt(8) > 0;

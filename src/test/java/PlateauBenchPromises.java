@@ -3,7 +3,7 @@ public final class PlateauBenchPromises {
     private static final Class<IndexOutOfBoundsException> NO_SUCH = IndexOutOfBoundsException.class;
     private static final Class<IllegalArgumentException> OUT = IllegalArgumentException.class;
     private static final Class<IllegalStateException> STATE = IllegalStateException.class;
-    private static final long ALL = (1L << 36) - 1;
+    private static final long ALL = Recipe.ALL_NODES;
     private static final int LEAST = Integer.MIN_VALUE;
     private static final int MOST = Integer.MAX_VALUE;
 
@@ -42,36 +42,6 @@ public final class PlateauBenchPromises {
         Check.end();
     }
 
-    private static PlateauBench withTowns(int... nodes) {
-        PlateauBench x = new PlateauBench();
-        for (int node : nodes) {
-            x.town(node);
-        }
-        return x;
-    }
-
-    /** Something of everything, so that a call that changes what it must not is seen. */
-    private static PlateauBench busy() {
-        PlateauBench x = withTowns(0, 5, 33);
-        x.cost(1, 3);
-        x.lay(7, 4);
-        x.lay(40, 11);
-        x.pin(1, 1);
-        x.pin(34, 2);
-        spike(x);
-        x.pull(35, 6);
-        x.hold(6, true);
-        x.breathe(1);
-        return x;
-    }
-
-    /** A block of four at the left rim with a spike of three, which shrinks by one node a breath. */
-    private static void spike(PlateauBench x) {
-        for (int node : new int[] {12, 13, 18, 19, 14, 15, 16}) {
-            x.pull(node, 1);
-        }
-    }
-
     private static void promise01NewObject() {
         PlateauBench x = new PlateauBench();
         for (int edge = 0; edge < 60; edge++) {
@@ -86,13 +56,13 @@ public final class PlateauBenchPromises {
         for (int bubble = 0; bubble < 8; bubble++) {
             Check.due("new: held " + bubble, x.bubble(bubble, 4), 0);
         }
-        Check.fails(x, "new: townAt", NO_SUCH, () -> x.townAt(0));
+        Check.fails("new: townAt", NO_SUCH, () -> x.townAt(0));
         Check.due("new: least", x.least(), 0);
         Check.due("new: rests", x.rests(), 0);
         Check.due("new: energy 0", x.energy(0), 0);
         Check.due("new: work", x.energy(2), 0);
         Check.due("new: lost", x.energy(3), 0);
-        Check.due("new: what two objects share", withTowns(3).townAt(0) + new PlateauBench().least(), 3);
+        Check.due("new: what two objects share", Recipe.withTowns(3).townAt(0) + new PlateauBench().least(), 3);
     }
 
     private static void promise02Cost() {
@@ -108,13 +78,13 @@ public final class PlateauBenchPromises {
         Check.due("cost: 30 is down", x.edge(30), 4);
         Check.due("cost: again", x.cost(0, 1), 9);
         Check.due("cost: the same", x.cost(1, 4), 4);
-        PlateauBench y = busy();
+        PlateauBench y = Recipe.BUSY.make();
         for (int direction : new int[] {-1, 2, LEAST, MOST}) {
-            Check.fails(y, "cost of direction " + direction, OUT, () -> y.cost(direction, 5));
+            Check.fails("cost of direction " + direction, OUT, () -> y.cost(direction, 5));
         }
         for (int cost : new int[] {0, 10, -1, LEAST, MOST}) {
-            Check.fails(y, "cost across of " + cost, OUT, () -> y.cost(0, cost));
-            Check.fails(y, "cost down of " + cost, OUT, () -> y.cost(1, cost));
+            Check.fails("cost across of " + cost, OUT, () -> y.cost(0, cost));
+            Check.fails("cost down of " + cost, OUT, () -> y.cost(1, cost));
         }
     }
 
@@ -128,13 +98,13 @@ public final class PlateauBenchPromises {
         Check.due("lay: nothing again", x.lay(0, 0), 3);
         Check.due("lay: the bare edge", x.edge(0), 1);
         Check.due("lay: beside it", x.edge(1), 1);
-        PlateauBench y = busy();
+        PlateauBench y = Recipe.BUSY.make();
         for (int edge : new int[] {-1, 60, LEAST, MOST}) {
-            Check.fails(y, "lay on " + edge, NO_SUCH, () -> y.lay(edge, 5));
-            Check.fails(y, "lay too much on " + edge, NO_SUCH, () -> y.lay(edge, 51));
+            Check.fails("lay on " + edge, NO_SUCH, () -> y.lay(edge, 5));
+            Check.fails("lay too much on " + edge, NO_SUCH, () -> y.lay(edge, 51));
         }
         for (int cost : new int[] {-1, 51, LEAST, MOST}) {
-            Check.fails(y, "lay " + cost, OUT, () -> y.lay(7, cost));
+            Check.fails("lay " + cost, OUT, () -> y.lay(7, cost));
         }
     }
 
@@ -148,7 +118,7 @@ public final class PlateauBenchPromises {
         Check.due("edge: the first down", x.edge(30), 52);
         Check.due("edge: the last", x.edge(59), 2);
         for (int edge : new int[] {-1, 60, LEAST, MOST}) {
-            Check.fails(x, "edge " + edge, NO_SUCH, () -> x.edge(edge));
+            Check.fails("edge " + edge, NO_SUCH, () -> x.edge(edge));
         }
     }
 
@@ -167,8 +137,8 @@ public final class PlateauBenchPromises {
         x.lay(30, 50);
         Check.due("apart: out of a dear corner", x.apart(0, 7), 55);
         for (int node : new int[] {-1, 36, LEAST, MOST}) {
-            Check.fails(x, "apart from " + node, NO_SUCH, () -> x.apart(node, 0));
-            Check.fails(x, "apart to " + node, NO_SUCH, () -> x.apart(0, node));
+            Check.fails("apart from " + node, NO_SUCH, () -> x.apart(node, 0));
+            Check.fails("apart to " + node, NO_SUCH, () -> x.apart(0, node));
         }
     }
 
@@ -178,55 +148,55 @@ public final class PlateauBenchPromises {
         for (int i = 0; i < 6; i++) {
             Check.due("town: number " + i, x.town(nodes[i]), i);
             int node = nodes[i];
-            Check.fails(x, "town: again at " + node, STATE, () -> x.town(node));
-            Check.fails(x, "town: at -1", NO_SUCH, () -> x.town(-1));
+            Check.fails("town: again at " + node, STATE, () -> x.town(node));
+            Check.fails("town: at -1", NO_SUCH, () -> x.town(-1));
         }
-        Check.fails(x, "town: a seventh one", STATE, () -> x.town(1));
+        Check.fails("town: a seventh one", STATE, () -> x.town(1));
         for (int node : new int[] {-1, 36, LEAST, MOST}) {
-            Check.fails(x, "town: a seventh one at " + node, NO_SUCH, () -> x.town(node));
+            Check.fails("town: a seventh one at " + node, NO_SUCH, () -> x.town(node));
         }
         x.away(2);
         Check.due("town: the sixth one again", x.town(7), 5);
     }
 
     private static void promise07Away() {
-        PlateauBench x = withTowns(3, 9, 27, 30);
+        PlateauBench x = Recipe.withTowns(3, 9, 27, 30);
         Check.due("away: one in the middle", x.away(1), 9);
         Check.due("away: before it", x.townAt(0), 3);
         Check.due("away: behind it", x.townAt(1), 27);
         Check.due("away: the last", x.townAt(2), 30);
-        Check.fails(x, "away: the number that is gone", NO_SUCH, () -> x.away(3));
-        Check.fails(x, "away: -1", NO_SUCH, () -> x.away(-1));
-        Check.fails(x, "away: far below", NO_SUCH, () -> x.away(LEAST));
-        Check.fails(x, "away: far above", NO_SUCH, () -> x.away(MOST));
+        Check.fails("away: the number that is gone", NO_SUCH, () -> x.away(3));
+        Check.fails("away: -1", NO_SUCH, () -> x.away(-1));
+        Check.fails("away: far below", NO_SUCH, () -> x.away(LEAST));
+        Check.fails("away: far above", NO_SUCH, () -> x.away(MOST));
         Check.due("away: the least net before", x.least(), 3 + 5);
         Check.due("away: the last one", x.away(2), 30);
         Check.due("away: the least net behind", x.least(), 4);
         Check.due("away: the first one", x.away(0), 3);
         Check.due("away: that behind it", x.away(0), 27);
-        Check.fails(x, "away: none left", NO_SUCH, () -> x.away(0));
+        Check.fails("away: none left", NO_SUCH, () -> x.away(0));
         Check.due("away: its node is free", x.town(9), 0);
     }
 
     private static void promise08TownAt() {
-        PlateauBench x = withTowns(35, 0, 17);
+        PlateauBench x = Recipe.withTowns(35, 0, 17);
         Check.due("townAt 0", x.townAt(0), 35);
         Check.due("townAt 1", x.townAt(1), 0);
         Check.due("townAt 2", x.townAt(2), 17);
         for (int town : new int[] {-1, 3, 6, LEAST, MOST}) {
-            Check.fails(x, "townAt " + town, NO_SUCH, () -> x.townAt(town));
+            Check.fails("townAt " + town, NO_SUCH, () -> x.townAt(town));
         }
     }
 
     private static void promise09Least() {
-        Check.due("least: one town", withTowns(8).least(), 0);
-        Check.due("least: two towns", withTowns(8, 28).least(), 5);
-        Check.due("least: three corners", withTowns(0, 5, 35).least(), 10);
-        Check.due("least: a cross", withTowns(2, 12, 17, 32).least(), 10);
-        Check.due("least: four corners", withTowns(0, 5, 30, 35).least(), 15);
-        Check.due("least: a column", withTowns(0, 30, 12, 24, 18, 6).least(), 5);
-        Check.due("least: six round the rim", withTowns(0, 5, 30, 35, 2, 33).least(), 15);
-        PlateauBench x = withTowns(0, 5, 30, 35);
+        Check.due("least: one town", Recipe.withTowns(8).least(), 0);
+        Check.due("least: two towns", Recipe.withTowns(8, 28).least(), 5);
+        Check.due("least: three corners", Recipe.withTowns(0, 5, 35).least(), 10);
+        Check.due("least: a cross", Recipe.withTowns(2, 12, 17, 32).least(), 10);
+        Check.due("least: four corners", Recipe.withTowns(0, 5, 30, 35).least(), 15);
+        Check.due("least: a column", Recipe.withTowns(0, 30, 12, 24, 18, 6).least(), 5);
+        Check.due("least: six round the rim", Recipe.withTowns(0, 5, 30, 35, 2, 33).least(), 15);
+        PlateauBench x = Recipe.withTowns(0, 5, 30, 35);
         x.lay(3, 50);
         Check.due("least: round what is laid", x.least(), 15);
         x.cost(0, 9);
@@ -238,11 +208,11 @@ public final class PlateauBenchPromises {
 
     private static void promise10LeastAnew() {
         Check.due("leastAnew: none", new PlateauBench().leastAnew(), 0);
-        Check.due("leastAnew: one town", withTowns(8).leastAnew(), 0);
-        Check.due("leastAnew: two towns", withTowns(8, 28).leastAnew(), 5);
-        Check.due("leastAnew: three corners", withTowns(0, 5, 35).leastAnew(), 10);
-        Check.due("leastAnew: a cross", withTowns(2, 12, 17, 32).leastAnew(), 10);
-        PlateauBench x = withTowns(0, 5, 30, 35);
+        Check.due("leastAnew: one town", Recipe.withTowns(8).leastAnew(), 0);
+        Check.due("leastAnew: two towns", Recipe.withTowns(8, 28).leastAnew(), 5);
+        Check.due("leastAnew: three corners", Recipe.withTowns(0, 5, 35).leastAnew(), 10);
+        Check.due("leastAnew: a cross", Recipe.withTowns(2, 12, 17, 32).leastAnew(), 10);
+        PlateauBench x = Recipe.withTowns(0, 5, 30, 35);
         Check.due("leastAnew: four corners", x.leastAnew(), 15);
         x.town(14);
         Check.due("leastAnew: five towns", x.leastAnew(), PlateauBench.NONE);
@@ -258,14 +228,14 @@ public final class PlateauBenchPromises {
 
     private static void promise11Bound() {
         Check.due("bound: none", new PlateauBench().bound(), 0);
-        Check.due("bound: one town", withTowns(8).bound(), 0);
-        Check.due("bound: two towns", withTowns(0, 35).bound(), 10);
-        Check.due("bound: three towns", withTowns(2, 12, 17).bound(), 7);
-        Check.due("bound: four corners", withTowns(0, 5, 30, 35).bound(), 10);
-        PlateauBench x = withTowns(0, 1, 7);
+        Check.due("bound: one town", Recipe.withTowns(8).bound(), 0);
+        Check.due("bound: two towns", Recipe.withTowns(0, 35).bound(), 10);
+        Check.due("bound: three towns", Recipe.withTowns(2, 12, 17).bound(), 7);
+        Check.due("bound: four corners", Recipe.withTowns(0, 5, 30, 35).bound(), 10);
+        PlateauBench x = Recipe.withTowns(0, 1, 7);
         x.lay(0, 1);
         Check.due("bound: half of five", x.bound(), 3);
-        PlateauBench y = withTowns(0, 5, 30, 35, 14, 21);
+        PlateauBench y = Recipe.withTowns(0, 5, 30, 35, 14, 21);
         for (int edge : new int[] {0, 30, 4, 35, 25, 54, 29, 59, 11, 12, 38, 44, 17, 18, 45, 51}) {
             y.lay(edge, 50);
         }
@@ -276,16 +246,16 @@ public final class PlateauBenchPromises {
         y.lay(4, 48);
         y.lay(35, 48);
         Check.due("bound: half of an even one, 516", y.bound(), 258);
-        PlateauBench z = withTowns(0, 35, 1);
+        PlateauBench z = Recipe.withTowns(0, 35, 1);
         z.lay(0, 50);
         Check.due("bound: the farthest two", z.bound(), 10 + 1);
     }
 
     private static void promise12Gap() {
         Check.due("gap: none", new PlateauBench().gap(), 0);
-        Check.due("gap: two towns", withTowns(0, 35).gap(), 0);
-        Check.due("gap: a cross", withTowns(2, 12, 17, 32).gap(), 10 - 8);
-        PlateauBench x = withTowns(0, 5, 30, 35);
+        Check.due("gap: two towns", Recipe.withTowns(0, 35).gap(), 0);
+        Check.due("gap: a cross", Recipe.withTowns(2, 12, 17, 32).gap(), 10 - 8);
+        PlateauBench x = Recipe.withTowns(0, 5, 30, 35);
         Check.due("gap: four corners", x.gap(), 5);
         x.cost(0, 2);
         x.cost(1, 3);
@@ -293,7 +263,7 @@ public final class PlateauBenchPromises {
     }
 
     private static void promise13IsUsed() {
-        PlateauBench x = withTowns(0, 7);
+        PlateauBench x = Recipe.withTowns(0, 7);
         for (int edge = 0; edge < 60; edge++) {
             boolean is = edge == 0 || edge == 31 || edge == 30 || edge == 5;
             Check.due("isUsed: both ways, " + edge, x.isUsed(edge), is);
@@ -306,7 +276,7 @@ public final class PlateauBenchPromises {
         for (int edge = 0; edge < 60; edge++) {
             Check.due("isUsed: one town, " + edge, x.isUsed(edge), false);
         }
-        PlateauBench y = withTowns(2, 12, 17, 32);
+        PlateauBench y = Recipe.withTowns(2, 12, 17, 32);
         y.cost(0, 2);
         for (int edge = 0; edge < 60; edge++) {
             boolean isBar = edge >= 10 && edge < 15;
@@ -314,7 +284,7 @@ public final class PlateauBenchPromises {
             Check.due("isUsed: a cross, " + edge, y.isUsed(edge), isBar || isPost);
         }
         for (int edge : new int[] {-1, 60, LEAST, MOST}) {
-            Check.fails(y, "isUsed " + edge, NO_SUCH, () -> y.isUsed(edge));
+            Check.fails("isUsed " + edge, NO_SUCH, () -> y.isUsed(edge));
         }
     }
 
@@ -338,11 +308,11 @@ public final class PlateauBenchPromises {
         Check.due("twoWays: the straight way", y.apart(6, 9), 3);
         Check.due("twoWays: without the straight way", y.twoWays(6, 9), 10);
         Check.due("twoWays: and back", y.twoWays(9, 6), 10);
-        Check.fails(y, "twoWays: the same", OUT, () -> y.twoWays(6, 6));
+        Check.fails("twoWays: the same", OUT, () -> y.twoWays(6, 6));
         for (int node : new int[] {-1, 36, LEAST, MOST}) {
-            Check.fails(y, "twoWays from " + node, NO_SUCH, () -> y.twoWays(node, 0));
-            Check.fails(y, "twoWays to " + node, NO_SUCH, () -> y.twoWays(0, node));
-            Check.fails(y, "twoWays from and to " + node, NO_SUCH, () -> y.twoWays(node, node));
+            Check.fails("twoWays from " + node, NO_SUCH, () -> y.twoWays(node, 0));
+            Check.fails("twoWays to " + node, NO_SUCH, () -> y.twoWays(0, node));
+            Check.fails("twoWays from and to " + node, NO_SUCH, () -> y.twoWays(node, node));
         }
     }
 
@@ -355,21 +325,14 @@ public final class PlateauBenchPromises {
         Check.due("pin: freed", x.pin(35, PlateauBench.FREE), 2);
         Check.due("pin: a film with it", x.costOf(ALL), 0);
         Check.due("pin: the first node", x.pin(0, 1), 0);
-        PlateauBench y = busy();
+        PlateauBench y = Recipe.BUSY.make();
         for (int node : new int[] {-1, 36, LEAST, MOST}) {
-            Check.fails(y, "pin " + node, NO_SUCH, () -> y.pin(node, 1));
-            Check.fails(y, "pin wrongly " + node, NO_SUCH, () -> y.pin(node, 3));
+            Check.fails("pin " + node, NO_SUCH, () -> y.pin(node, 1));
+            Check.fails("pin wrongly " + node, NO_SUCH, () -> y.pin(node, 3));
         }
         for (int as : new int[] {-1, 3, LEAST, MOST}) {
-            Check.fails(y, "pin as " + as, OUT, () -> y.pin(1, as));
+            Check.fails("pin as " + as, OUT, () -> y.pin(1, as));
         }
-    }
-
-    private static PlateauBench pinned(int inside, int outside) {
-        PlateauBench x = new PlateauBench();
-        x.pin(inside, 1);
-        x.pin(outside, 2);
-        return x;
     }
 
     private static void promise16Film() {
@@ -379,15 +342,15 @@ public final class PlateauBenchPromises {
         Check.due("film: outside alone", none.film(), 0);
         none.pin(3, 1);
         Check.due("film: inside alone", none.film(), 0);
-        Check.due("film: a corner", pinned(0, 35).film(), 2);
-        Check.due("film: in the middle", pinned(14, 21).film(), 4);
-        PlateauBench x = pinned(14, 15);
+        Check.due("film: a corner", Recipe.pinned(0, 35).film(), 2);
+        Check.due("film: in the middle", Recipe.pinned(14, 21).film(), 4);
+        PlateauBench x = Recipe.pinned(14, 15);
         Check.due("film: beside", x.film(), 4);
         x.lay(12, 30);
         Check.due("film: a dear edge between them", x.film(), 31 + 3);
         x.pin(14, 0);
         Check.due("film: freed", x.film(), 0);
-        PlateauBench y = pinned(0, 5);
+        PlateauBench y = Recipe.pinned(0, 5);
         y.pin(30, 1);
         y.pin(35, 2);
         Check.due("film: two corners each", y.film(), 4);
@@ -405,7 +368,7 @@ public final class PlateauBenchPromises {
         Check.due("proof: a corner", x.proof(), 2);
         x.pin(0, 0);
         Check.due("proof: outside alone", x.proof(), 0);
-        PlateauBench y = pinned(14, 15);
+        PlateauBench y = Recipe.pinned(14, 15);
         y.pin(13, 1);
         Check.due("proof: two inside", y.proof(), 4);
         y.lay(12, 5);
@@ -428,7 +391,7 @@ public final class PlateauBenchPromises {
         x.pin(8, 1);
         Check.due("side: the smallest, inside alone", x.side(false), ALL);
         Check.due("side: the greatest, inside alone", x.side(true), ALL);
-        PlateauBench y = pinned(0, 35);
+        PlateauBench y = Recipe.pinned(0, 35);
         Check.due("side: the smallest, corners", y.side(false), 1L);
         Check.due("side: the greatest, corners", y.side(true), ALL - (1L << 35));
         y.lay(0, 1);
@@ -440,7 +403,7 @@ public final class PlateauBenchPromises {
     }
 
     private static void promise19CostOf() {
-        PlateauBench x = pinned(0, 35);
+        PlateauBench x = Recipe.pinned(0, 35);
         Check.due("costOf: the corner", x.costOf(1L), 2);
         Check.due("costOf: all but the other one", x.costOf(ALL - (1L << 35)), 2);
         Check.due("costOf: one more in the middle", x.costOf(1L | 1L << 14), 6);
@@ -453,7 +416,7 @@ public final class PlateauBenchPromises {
         x.pin(0, 0);
         Check.due("costOf: nothing, with none inside", x.costOf(0L), 0);
         for (long film : new long[] {1L << 36, 1L | 1L << 36, 1L << 62, -1L, Long.MIN_VALUE, Long.MAX_VALUE, ALL + 1}) {
-            Check.fails(x, "costOf " + film, OUT, () -> x.costOf(film));
+            Check.fails("costOf " + film, OUT, () -> x.costOf(film));
         }
     }
 
@@ -467,12 +430,12 @@ public final class PlateauBenchPromises {
         x.hold(1, true);
         Check.due("pull: of a held one", x.pull(0, 1), 3);
         Check.due("pull: to a held one", x.bubbleAt(0), 1);
-        PlateauBench y = busy();
+        PlateauBench y = Recipe.BUSY.make();
         for (int wrong : new int[] {-1, 36, LEAST, MOST}) {
-            Check.fails(y, "pull " + wrong, NO_SUCH, () -> y.pull(wrong, 0));
+            Check.fails("pull " + wrong, NO_SUCH, () -> y.pull(wrong, 0));
         }
         for (int wrong : new int[] {-1, 8, LEAST, MOST}) {
-            Check.fails(y, "pull to " + wrong, NO_SUCH, () -> y.pull(0, wrong));
+            Check.fails("pull to " + wrong, NO_SUCH, () -> y.pull(0, wrong));
         }
     }
 
@@ -491,10 +454,10 @@ public final class PlateauBenchPromises {
         Check.due("hold: it stays", x.breathe(1), 0);
         x.hold(1, false);
         Check.due("hold: it goes", x.breathe(1), 1);
-        PlateauBench y = busy();
+        PlateauBench y = Recipe.BUSY.make();
         for (int wrong : new int[] {-1, 8, LEAST, MOST}) {
-            Check.fails(y, "hold " + wrong, NO_SUCH, () -> y.hold(wrong, true));
-            Check.fails(y, "let go " + wrong, NO_SUCH, () -> y.hold(wrong, false));
+            Check.fails("hold " + wrong, NO_SUCH, () -> y.hold(wrong, true));
+            Check.fails("let go " + wrong, NO_SUCH, () -> y.hold(wrong, false));
         }
     }
 
@@ -532,7 +495,7 @@ public final class PlateauBenchPromises {
         walls.lay(0, 50);
         Check.due("breathe: a held neighbour's wall counts", cornerBehindABreath(walls), 7);
         PlateauBench x = new PlateauBench();
-        spike(x);
+        Recipe.spike(x);
         Check.due("breathe: the spike, once", x.breathe(1), 1);
         Check.due("breathe: its tip", x.bubbleAt(16), 0);
         Check.due("breathe: behind its tip", x.bubbleAt(15), 1);
@@ -544,9 +507,9 @@ public final class PlateauBenchPromises {
             row.pull(node, 1);
         }
         Check.due("breathe: a row at once", row.breathe(1), 6);
-        PlateauBench y = busy();
+        PlateauBench y = Recipe.BUSY.make();
         for (int breaths : new int[] {0, 101, -1, LEAST, MOST}) {
-            Check.fails(y, "breathe " + breaths, OUT, () -> y.breathe(breaths));
+            Check.fails("breathe " + breaths, OUT, () -> y.breathe(breaths));
         }
     }
 
@@ -558,7 +521,7 @@ public final class PlateauBenchPromises {
         Check.due("bubbleAt 1", x.bubbleAt(1), 0);
         Check.due("bubbleAt 35", x.bubbleAt(35), 2);
         for (int node : new int[] {-1, 36, LEAST, MOST}) {
-            Check.fails(x, "bubbleAt " + node, NO_SUCH, () -> x.bubbleAt(node));
+            Check.fails("bubbleAt " + node, NO_SUCH, () -> x.bubbleAt(node));
         }
     }
 
@@ -588,11 +551,11 @@ public final class PlateauBenchPromises {
         x.lay(29, 6);
         tells(x, 1, 3, 3, 5 + 10 + 11, 3, 1);
         for (int wrong : new int[] {-1, 8, LEAST, MOST}) {
-            Check.fails(x, "bubble " + wrong, NO_SUCH, () -> x.bubble(wrong, 0));
-            Check.fails(x, "of the bubble " + wrong + " nothing there is", NO_SUCH, () -> x.bubble(wrong, 5));
+            Check.fails("bubble " + wrong, NO_SUCH, () -> x.bubble(wrong, 0));
+            Check.fails("of the bubble " + wrong + " nothing there is", NO_SUCH, () -> x.bubble(wrong, 5));
         }
         for (int wrong : new int[] {-1, 5, LEAST, MOST}) {
-            Check.fails(x, "of a bubble " + wrong, OUT, () -> x.bubble(0, wrong));
+            Check.fails("of a bubble " + wrong, OUT, () -> x.bubble(0, wrong));
         }
     }
 
@@ -609,9 +572,9 @@ public final class PlateauBenchPromises {
         Check.due("wall: itself", x.wall(1, 1), 0);
         Check.due("wall: the rest itself", x.wall(0, 0), 0);
         for (int wrong : new int[] {-1, 8, LEAST, MOST}) {
-            Check.fails(x, "wall of " + wrong, NO_SUCH, () -> x.wall(wrong, 0));
-            Check.fails(x, "wall to " + wrong, NO_SUCH, () -> x.wall(0, wrong));
-            Check.fails(x, "wall between " + wrong, NO_SUCH, () -> x.wall(wrong, wrong));
+            Check.fails("wall of " + wrong, NO_SUCH, () -> x.wall(wrong, 0));
+            Check.fails("wall to " + wrong, NO_SUCH, () -> x.wall(0, wrong));
+            Check.fails("wall between " + wrong, NO_SUCH, () -> x.wall(wrong, wrong));
         }
     }
 
@@ -635,13 +598,13 @@ public final class PlateauBenchPromises {
         x.pull(21, 1);
         kinds(x, 15, 5, 5, 0);
         for (int wrong : new int[] {-1, 0, 5, LEAST, MOST}) {
-            Check.fails(x, "corners of " + wrong, OUT, () -> x.corners(wrong));
+            Check.fails("corners of " + wrong, OUT, () -> x.corners(wrong));
         }
     }
 
     private static void promise27Rests() {
         PlateauBench x = new PlateauBench();
-        spike(x);
+        Recipe.spike(x);
         Check.due("rests: the spike", x.rests(), 3);
         Check.due("rests: it has not moved", x.bubbleAt(16), 1);
         x.breathe(1);
@@ -656,7 +619,7 @@ public final class PlateauBenchPromises {
 
     private static void promise28Energy() {
         PlateauBench x = new PlateauBench();
-        spike(x);
+        Recipe.spike(x);
         energies(x, 12, 6, 12, 0);
         x.breathe(2);
         energies(x, 8, 6, 12, 4);
@@ -678,7 +641,7 @@ public final class PlateauBenchPromises {
         }
         energies(x, 0, 0, 15, 15);
         for (int wrong : new int[] {-1, 5, LEAST, MOST}) {
-            Check.fails(x, "of the energy " + wrong, OUT, () -> x.energy(wrong));
+            Check.fails("of the energy " + wrong, OUT, () -> x.energy(wrong));
         }
     }
 
