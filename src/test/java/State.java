@@ -1,6 +1,6 @@
 /**
  * All that tells two benches apart, as one text. What no call tells without changing it is read last,
- * so the bench is used up; some 330 calls, which leaves 180 of the promised 512 to who made the bench.
+ * so the bench is used up; some 295 calls, which leaves some 210 of the promised 512 to who made the bench.
  */
 final class State {
     private State() {
